@@ -588,9 +588,6 @@ public final class HourStore {
         final boolean[] dark = new boolean[MOST_STEPS];
         final int[] kept = new int[MOST_STEPS];
 
-        Line() {
-        }
-
         int keptBack(int step) {
             return dark[step] ? 0 : kept[step];
         }
@@ -641,9 +638,6 @@ public final class HourStore {
         /** Room for the greatest number of places; only the first ones are there. */
         final int[] cells = new int[MOST_STEPS];
 
-        Prices() {
-        }
-
         void renew(int newWidth, int n) {
             there = true;
             width = newWidth;
@@ -680,9 +674,6 @@ public final class HourStore {
         int end;
         int warranty;
         final int[] plan = new int[MOST_STEPS];
-
-        Battery() {
-        }
 
         void renew(int newKind, int newSize) {
             there = true;
@@ -923,9 +914,6 @@ public final class HourStore {
         final int[] amount = new int[MOST_BIDS];
         final int[] limit = new int[MOST_BIDS];
 
-        Bids() {
-        }
-
         int add(int newFirst, int newLast, int newAmount, int newLimit) {
             first[size] = newFirst;
             last[size] = newLast;
@@ -1013,9 +1001,6 @@ public final class HourStore {
         final int[] step = new int[MOST_ROWS];
         final int[] number = new int[MOST_ROWS];
         final long[] money = new long[MOST_ROWS];
-
-        Book() {
-        }
 
         void add(int newStore, int newWorld, int newStep, int newNumber, long newMoney) {
             store[rows] = newStore;

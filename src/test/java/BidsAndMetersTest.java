@@ -10,8 +10,10 @@ public final class BidsAndMetersTest {
         wanted();
         fill();
         fillRefused();
+        fillOfTheLongestTime();
         meter();
         counts();
+        countsAtTheEnds();
         due.end();
     }
 
@@ -181,5 +183,29 @@ public final class BidsAndMetersTest {
         due.is("30 T does not matter", x.counts(25), 7);
         due.is("30 STEP 36", x.counts(36), Due.BAD);
         due.is("30 STEP -1", x.counts(-1), Due.BAD);
+    }
+
+    private static void fillOfTheLongestTime() {
+        HourStore x = new HourStore();
+        x.time(36);
+        x.store(0, 0, 60, Due.rates(1, 1), 0);
+        x.bid(0, 35, 2, 0);
+        due.is("28 SHORT by 1 each", x.fill(0, 0), 36);
+        due.is("28 the last STEP", x.planned(0, 35), 1);
+    }
+
+    private static void countsAtTheEnds() {
+        HourStore x = new HourStore();
+        x.meter(0, 8);
+        due.is("38 a reading of STEP 0", x.count(5), 1);
+        due.is("30 ahead of it STEP 0 alone", x.counts(1), 8);
+        due.is("30 ahead of it STEP 0 alone", x.counts(35), 8);
+        x.meter(35, 3);
+        due.is("30 between STEP 0 and STEP 35", x.counts(1), 5);
+        due.is("30 between STEP 0 and STEP 35", x.counts(34), 5);
+        x.meter(0, -1001);
+        due.is("30 behind it STEP 35 alone", x.counts(0), 3);
+        due.is("30 behind it STEP 35 alone", x.counts(34), 3);
+        due.is("38 a reading of STEP 35", x.count(5), 1);
     }
 }

@@ -6,6 +6,7 @@ public final class BookTest {
         live();
         liveRefused();
         liveFull();
+        liveOfTheLongestTime();
         row();
         forge();
         checkMoney();
@@ -79,6 +80,19 @@ public final class BookTest {
         due.is("31 shut()", x.shut(), 150);
         x.put(1, 0, 1);
         due.is("31 room again", x.live(1, 0), 1);
+    }
+
+    private static void liveOfTheLongestTime() {
+        HourStore x = new HourStore();
+        x.time(36);
+        x.store(0, 0, 60, Due.rates(1, 1), 0);
+        for (int t = 0; t < 36; t++) {
+            x.put(0, t, 1);
+        }
+        due.is("31 36 rows", x.live(0, 0), 36);
+        due.is("31 the CHARGE behind all", x.about(0, 2), 36);
+        due.is("32 the last STEP", x.row(35, 2), 35);
+        due.is("34 RIGHT", x.check(), Due.NONE);
     }
 
     private static void row() {
@@ -286,6 +300,11 @@ public final class BookTest {
         due.is("38 MONEY beyond an int", x.count(7), 2L * Integer.MAX_VALUE);
         x.time(3);
         due.is("38 DARK up to T", x.count(6), 2);
+        x.dark(0, 1);
+        x.dark(35, 1);
+        due.is("38 DARK from 0 on", x.count(6), 3);
+        x.time(36);
+        due.is("38 DARK up to the last", x.count(6), 4);
         due.is("38 what 8", x.count(8), Due.BAD);
         due.is("38 what -1", x.count(-1), Due.BAD);
     }

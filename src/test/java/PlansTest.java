@@ -19,6 +19,8 @@ public final class PlansTest {
         many();
         value();
         valueBeyondFloorAndTop();
+        longestTimeGreatestRates();
+        longestTimeOfAPlan();
         due.end();
     }
 
@@ -348,5 +350,42 @@ public final class PlansTest {
         due.is("23 t 1, c 20", x.value(0, 1, 1, 20), 0);
         due.is("23 t 1, c 0", x.value(0, 1, 1, 0), 0);
         due.is("23 c 21", x.value(0, 1, 1, 21), Due.BAD);
+    }
+
+    private static void longestTimeGreatestRates() {
+        HourStore x = new HourStore();
+        x.time(36);
+        x.store(0, 1, 60, Due.rates(20, 20), 0);
+        x.world(0, 2, 36);
+        for (int t = 0; t < 36; t++) {
+            x.price(0, t, t % 2 == 0 ? -10000 : 10000);
+        }
+        due.is("21 40 in and out, 18 times", x.best(0, 1), 18 * 40 * 20000);
+        planIs("21 40 in and out", x, 40, -40, 40, -40);
+        due.is("21 the last STEP", x.planned(0, 35), -40);
+        due.is("22 one alone", x.many(0, 1), 1);
+        due.is("23 t 35, c 60", x.value(0, 1, 35, 60), 400000);
+        due.is("23 t 36, c 60", x.value(0, 1, 36, 60), 0);
+        x.end(0, 60);
+        due.is("23 t 36, c 59", x.value(0, 1, 36, 59), Due.NONE);
+        due.is("22 more than can be told, at one CHARGE", x.many(0, 2), 1000000000);
+    }
+
+    private static void longestTimeOfAPlan() {
+        HourStore x = new HourStore();
+        x.time(36);
+        x.store(0, 0, 60, Due.rates(2, 1), Due.lossWear(0, 1));
+        x.world(0, 0, 36);
+        for (int t = 0; t < 36; t++) {
+            x.put(0, t, 1);
+            x.price(0, t, 1);
+        }
+        due.is("17 behind the last one", x.behind(0, 35), 36);
+        due.is("17 STEP 36", x.behind(0, 36), Due.INDEX);
+        due.is("18 ALLOWED", x.why(0), Due.NONE);
+        due.is("19 all STEPS", x.money(0, 0), -36);
+        due.is("20 all STEPS", x.worst(0, 15), -36);
+        x.put(0, 35, 3);
+        due.is("18 the last STEP", x.why(0), 352);
     }
 }
