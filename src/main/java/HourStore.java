@@ -71,7 +71,7 @@ public final class HourStore {
         for (int s = 0; s < STORES; s++) {
             batteries[s] = new Battery();
         }
-        planner = new Planner(line, worlds);
+        planner = new Planner();
         bids = new Bids();
         meters = new Meters();
         book = new Book();
@@ -295,10 +295,11 @@ public final class HourStore {
         if (refused != FINE) {
             return refused;
         }
-        long least = Long.MAX_VALUE;
+        long least = NONE;
         for (int w = 0; w < WORLDS; w++) {
             if (hasWorld(worlds, w)) {
-                least = Math.min(least, batteries[store].planMoney(this.worlds[w], line.steps));
+                long money = batteries[store].planMoney(this.worlds[w], line.steps);
+                least = least == NONE ? money : Math.min(least, money);
             }
         }
         return least;
@@ -310,10 +311,11 @@ public final class HourStore {
             return refused;
         }
         Battery battery = batteries[store];
-        planner.solve(battery, worlds, 0);
+        planner.sumPrices(this.worlds, worlds);
+        planner.solve(line, battery, 0);
         long greatest = planner.worthOf(0, battery.charge);
         if (greatest != NONE) {
-            planner.writeFirstBest(battery, worlds);
+            planner.writeFirstBest(line, battery);
         }
         return greatest;
     }
@@ -324,11 +326,12 @@ public final class HourStore {
             return refused;
         }
         Battery battery = batteries[store];
-        planner.solve(battery, worlds, 0);
+        planner.sumPrices(this.worlds, worlds);
+        planner.solve(line, battery, 0);
         if (planner.worthOf(0, battery.charge) == NONE) {
             return 0;
         }
-        return planner.waysOfBest(battery, worlds);
+        return planner.waysOfBest(line, battery);
     }
 
     public long value(int store, int worlds, int t, int c) {
@@ -340,7 +343,8 @@ public final class HourStore {
         if (!within(t, 0, line.steps) || !within(c, 0, battery.size)) {
             return BAD;
         }
-        planner.solve(battery, worlds, t);
+        planner.sumPrices(this.worlds, worlds);
+        planner.solve(line, battery, t);
         return planner.worthOf(t, c);
     }
 
@@ -769,8 +773,9 @@ public final class HourStore {
 
     /** Finds VALUES from the last STEP backwards, and from them what is BEST. */
     private static final class Planner {
-        final Line line;
-        final Prices[] worlds;
+        /** The prices of all WORLDS that are asked for, together, by STEP. */
+        final long[] priceSums = new long[MOST_STEPS];
+        int worldsMany;
         /** VALUE by STEP and CHARGE; NONE where nothing is ALLOWED. */
         final long[] worth = new long[(MOST_STEPS + 1) * CHARGES];
         /** MONEY by number, for the STEP that is open; NONE for a number that is not ALLOWED. */
@@ -782,21 +787,27 @@ public final class HourStore {
         int leastAfter;
         int mostAfter;
 
-        Planner(Line line, Prices[] worlds) {
-            this.line = line;
-            this.worlds = worlds;
+        /** Ahead of solve: for which WORLDS (bits) it looks. */
+        void sumPrices(Prices[] worlds, int bits) {
+            worldsMany = Integer.bitCount(bits);
+            Arrays.fill(priceSums, 0L);
+            for (int w = 0; w < worlds.length; w++) {
+                for (int t = 0; t < MOST_STEPS && hasWorld(bits, w); t++) {
+                    priceSums[t] += worlds[w].priceOf(t);
+                }
+            }
         }
 
         long worthOf(int t, int c) {
             return worth[t * CHARGES + c];
         }
 
-        void solve(Battery battery, int bits, int from) {
+        void solve(Line line, Battery battery, int from) {
             for (int c = 0; c < CHARGES; c++) {
                 worth[line.steps * CHARGES + c] = c < battery.end ? NONE : 0;
             }
             for (int t = line.steps - 1; t >= from; t--) {
-                openStep(battery, bits, t);
+                openStep(line, battery, t);
                 for (int c = 0; c <= battery.size; c++) {
                     worth[t * CHARGES + c] = greatest(t, c);
                 }
@@ -804,10 +815,10 @@ public final class HourStore {
         }
 
         /** Only after solve from 0, and only if there is a PLAN that is ALLOWED. */
-        void writeFirstBest(Battery battery, int bits) {
+        void writeFirstBest(Line line, Battery battery) {
             int c = battery.charge;
             for (int t = 0; t < line.steps; t++) {
-                openStep(battery, bits, t);
+                openStep(line, battery, t);
                 int d = leastBest(t, c);
                 battery.plan[t] = d;
                 c += d;
@@ -815,11 +826,11 @@ public final class HourStore {
         }
 
         /** Only after solve from 0, and only if there is a PLAN that is ALLOWED. */
-        long waysOfBest(Battery battery, int bits) {
+        long waysOfBest(Line line, Battery battery) {
             Arrays.fill(ways, 0L);
             ways[battery.charge] = 1;
             for (int t = 0; t < line.steps; t++) {
-                openStep(battery, bits, t);
+                openStep(line, battery, t);
                 Arrays.fill(nextWays, 0L);
                 for (int c = 0; c <= battery.size; c++) {
                     spreadWays(t, c);
@@ -833,26 +844,16 @@ public final class HourStore {
             return Math.min(MOST_MANY, sum);
         }
 
-        private void openStep(Battery battery, int bits, int t) {
+        private void openStep(Line line, Battery battery, int t) {
             int kept = line.keptBack(t);
             leastMove = line.dark[t] ? 0 : Math.min(0, kept - battery.rateOut);
             mostMove = line.dark[t] ? 0 : Math.max(0, battery.rateIn - kept);
             leastAfter = battery.lowest + kept;
             mostAfter = battery.highest - kept;
-            long prices = sumOfPrices(bits, t);
-            int worldsMany = Integer.bitCount(bits);
             for (int d = leastMove; d <= mostMove; d++) {
                 // With much KEPT back, numbers between 0 and the rates are not ALLOWED.
-                gain[d + MOST_RATE] = line.allowsMove(battery, t, d) ? battery.moneyTogether(d, prices, worldsMany) : NONE;
+                gain[d + MOST_RATE] = line.allowsMove(battery, t, d) ? battery.moneyTogether(d, priceSums[t], worldsMany) : NONE;
             }
-        }
-
-        private long sumOfPrices(int bits, int t) {
-            long sum = 0;
-            for (int w = 0; w < WORLDS; w++) {
-                sum += hasWorld(bits, w) ? worlds[w].priceOf(t) : 0;
-            }
-            return sum;
         }
 
         private int firstMove(int c) {
